@@ -14,6 +14,7 @@ public final class DoneTest {
         looking();
         images();
         noStreet();
+        allThereIsRoomFor();
         C.end();
     }
 
@@ -35,6 +36,8 @@ public final class DoneTest {
         C.due("10: MIN", b.stretch(MIN, MIN), Check.BAD);
         C.due("10: refused, no act", b.count(7), 5);
         C.due("13: stretch", b.door(0, 1), 4);
+        C.due("10: to none", b.stretch(0, 0), 4);
+        C.due("13: none", b.door(0, 1), 0);
     }
 
     private static void sounds() {
@@ -263,12 +266,22 @@ public final class DoneTest {
         b.stretch(1, 0);
         C.due("28: kept yet", b.restore(1), 1);
         C.due("28: stretch", b.door(1, 1), 2);
+        C.due("28: none to undo", b.undo(), Check.STATE);
         b.days(1);
         b.image(0);
         b.image(1);
         b.days(1);
         C.due("28: both", b.restore(0) + b.restore(1), 2);
         C.due("27: in place of the one before", b.count(5), 4);
+        DoorBell met = Check.told("g0,0;d1;u0,1;u0,0;");
+        met.days(2);
+        met.image(0);
+        met.days(3);
+        C.due("33: have met", met.count(6), 5);
+        met.restore(0);
+        C.due("28: how often it has met", met.caller(0, 4), 2);
+        C.due("14: meets is told by 1", met.caller(0, 3), 1);
+        C.due("14: and by 0", met.caller(1, 3), 0);
     }
 
     private static void noStreet() {
@@ -283,5 +296,31 @@ public final class DoneTest {
         C.due("11: BAD", b.sound(0, 0, 0), Check.BAD);
         C.due("13: BAD", b.door(0, 0), Check.BAD);
         C.due("14: BAD", b.caller(0, 0), Check.BAD);
+    }
+
+    private static void allThereIsRoomFor() {
+        DoorBell b = Check.told("g60,12;d1;d1;d1;d1;d1;d1;u0,20;u1,20;u2,20;u3,20;u4,20;u5,0;");
+        for (int door = 0; door < 6; door++) {
+            C.due("10: at " + door, b.stretch(door, 5), 0);
+            C.due("11: a cough at " + door, b.sound(door, 0, 1), 2 * door + 1);
+            C.due("11: a dog at " + door, b.sound(door, 1, 1), 2 * door + 2);
+        }
+        C.due("15: seconds", b.used(0), 30);
+        C.due("15: sounds", b.used(1), 12);
+        C.due("12: days", b.days(6), 31);
+        C.due("33: all have met", b.count(6), 30);
+        C.due("12: once round", b.caller(5, 0), 5);
+        C.due("17: nothing", b.nothing(), 5);
+        C.due("9: undone", b.undo(), 23);
+        C.due("33: all have met", b.count(6), 25);
+        C.due("9: back", b.caller(5, 0), 4);
+        C.due("17: not alone there", b.nothing(), Check.NONE);
+        C.due("20: the fewest", b.least(31, 32, -1), 0);
+        C.due("21: none", b.whichDoor(31, 32), Check.NONE);
+        b.row(0, 2, 40);
+        C.due("25: at the end of a row", b.rather(0, 32, 1), 15);
+        C.due("25: beyond", b.rather(0, 33, 1), Check.PLACE);
+        C.due("22: at the end of a row", b.who(5, 0, 28, 12), 2 + 8 + 16 + 32);
+        C.due("22: beyond", b.who(5, 0, 29, 12), Check.PLACE);
     }
 }

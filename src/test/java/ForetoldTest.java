@@ -7,6 +7,7 @@ public final class ForetoldTest {
         ahead();
         soon();
         least();
+        leastOfSeveral();
         leastByNeighbours();
         whichDoor();
         who();
@@ -14,6 +15,7 @@ public final class ForetoldTest {
         reaches();
         rather();
         drawn();
+        drawnLong();
         C.end();
     }
 
@@ -88,6 +90,15 @@ public final class ForetoldTest {
         C.due("20: no street", new DoorBell().least(-1, -1, -2), Check.STATE);
     }
 
+    /** Few of many ways: a DOG that costs a COUGH elsewhere, and all that can be laid at one DOOR. */
+    private static void leastOfSeveral() {
+        DoorBell b = Check.told("g0,0;d5;d5;u0,6;u1,6;");
+        dueLeast("20: the first door has less, though without a dog", b, 1, 2, 2, 0, 8);
+        dueLeast("20: five seconds and a cough", Check.told("g0,0;d2;l0,0;u0,3;"), 1, 2, 6, 22);
+        dueLeast("20: five seconds and a dog", Check.told("g0,0;d2;u0,8;"), 0, 1, 6, 21);
+        dueLeast("20: not even so", Check.told("g0,0;d2;u0,9;"), 0, 1, Check.NONE, Check.NONE);
+    }
+
     /** One DOG can part callers at three DOORS; of two ways the one whose first DOOR has less is told. */
     private static void leastByNeighbours() {
         DoorBell b = Check.told("g0,0;d5;d5;d5;u0,5;u1,5;u2,5;");
@@ -108,6 +119,7 @@ public final class ForetoldTest {
         C.due("21: none", b.whichDoor(3, 4), Check.NONE);
         C.due("21: the first", b.whichDoor(12, 0), 1);
         C.due("21: the second", b.whichDoor(9, 0), 2);
+        C.due("21: the very first", Check.told("g0,0;d9;d9;k0,9;k1,9;").whichDoor(3, 0), 0);
         C.due("21: not told, not asked", b.whichDoor(0, 0), Check.NONE);
         C.due("21: sets", b.whichDoor(32, 0), Check.BAD);
         C.due("21: sets", b.whichDoor(0, -1), Check.BAD);
@@ -170,13 +182,22 @@ public final class ForetoldTest {
         b.sound(3, 1, 1);
         dueSleeps("23: a dog that is not heard", b, 0, 5, 1, 8);
         dueSleeps("23: a dog of its own door", b, 1, 4, 2, 5);
+        b.sound(2, 1, 0);
+        b.sound(3, 1, 0);
+        // Now only the dog of door 0 keeps caller 0 away: it sleeps, door 1 does not.
+        dueSleeps("23: one asleep, one awake", b, 0, 2, 4, 25);
+        dueSleeps("23: one asleep, one awake", b, 0, 9, 9, 100);
+        b.sound(0, 1, 0);
+        b.sound(1, 0, 0);
+        b.stretch(0, 3);
+        dueSleeps("23: stretch sleeps, too", b, 1, 7, 7, 10);
         C.due("23: p 11", b.sleeps(0, 11, 0), Check.BAD);
         C.due("23: p -1", b.sleeps(0, -1, 0), Check.BAD);
         C.due("23: what 2", b.sleeps(0, 0, 2), Check.BAD);
         C.due("23: what -1", b.sleeps(0, 0, -1), Check.BAD);
         C.due("23: caller 2", b.sleeps(2, 0, 0), Check.BAD);
         C.due("23: caller -1", b.sleeps(-1, 0, 0), Check.BAD);
-        C.due("23: what is laid stays", b.used(1), 4);
+        C.due("23: what is laid stays", b.used(0) + b.used(1), 4);
     }
 
     private static void reaches() {
@@ -269,5 +290,24 @@ public final class ForetoldTest {
         C.due("26: what 2", b.drawn(1, 1, 2), Check.BAD);
         C.due("26: what -1", b.drawn(1, 1, -1), Check.BAD);
         C.due("26: no street", new DoorBell().drawn(-1, 0, 2), Check.STATE);
+    }
+
+    /** Answers that another program, written apart, has given. */
+    private static void drawnLong() {
+        int[] seeds = {1, 2, 3, 999999, 123456};
+        int[] met60 = {133, 113, 108, 144, 89};
+        int[] doors60 = {5, 7, 6, 6, 4};
+        int[] met7 = {19, 20, 4, 20, 8};
+        int[] doors7 = {4, 6, 4, 6, 6};
+        int[] metAtOne = {17, 16, 11, 21, 7};
+        DoorBell b = Check.told("g0,0;d5;d3;d4;u0,5;l1,3;b2,2;p1,9;k2,9;");
+        DoorBell one = Check.told("g0,0;d4;u0,5;l0,3;b0,2;p0,9;k0,9;");
+        for (int k = 0; k < seeds.length; k++) {
+            C.due("26: 60 days by " + seeds[k], b.drawn(60, seeds[k], 0), met60[k]);
+            C.due("26: doors behind 60 days by " + seeds[k], b.drawn(60, seeds[k], 1), doors60[k]);
+            C.due("26: 7 days by " + seeds[k], b.drawn(7, seeds[k], 0), met7[k]);
+            C.due("26: doors behind 7 days by " + seeds[k], b.drawn(7, seeds[k], 1), doors7[k]);
+            C.due("26: one door by " + seeds[k], one.drawn(9, seeds[k], 0), metAtOne[k]);
+        }
     }
 }

@@ -67,6 +67,24 @@ public final class TextTest {
         C.due("7: no stretch", b.door(0, 1), 0);
         C.due("7: no cough", b.door(0, 2), 0);
         C.due("7: nobody has met", b.count(6), 0);
+        leavesNothingBehind();
+    }
+
+    /** What is foretold may leave no mark on a street that is read behind it. */
+    private static void leavesNothingBehind() {
+        DoorBell b = Check.told("g60,12;d1;d1;u0,9;u1,9;");
+        b.stretch(0, 5);
+        b.sound(0, 0, 1);
+        b.sound(1, 1, 1);
+        b.days(3);
+        b.drawn(5, 7, 0);
+        b.sleeps(0, 5, 0);
+        b.reaches(0, 1);
+        Check.read(b, "g60,12;d1;d1;u0,9;u1,9;");
+        C.due("7: day", b.count(5), 0);
+        C.due("7: met", b.count(6), 0);
+        C.due("7: seconds used", b.used(0), 0);
+        C.due("7: sounds used", b.used(1), 0);
     }
 
     private static void faults() {
@@ -147,5 +165,12 @@ public final class TextTest {
         C.due("8: the latest fault stays", b.fault(), 2);
         Check.read(b, "q");
         C.due("8: a later one", b.fault(), 1);
+        String whole = "g11,11;d11;d11;u01,11;";
+        for (int n = 0; n < whole.length(); n++) {
+            boolean isWhole = n == 11 || n == 15;
+            int due = isWhole ? 0 : -1000100 - n;
+            C.due("7: the whole", Check.read(b, whole), 1);
+            C.due("7: of a longer text on the tape before only " + n, Check.read(b, whole.substring(0, n)), due);
+        }
     }
 }
