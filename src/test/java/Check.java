@@ -1,5 +1,14 @@
+import java.util.ArrayList;
+import java.util.List;
+
 /** What the tests share: answers that are due, and streets told by a text. */
 final class Check {
+    /** A call, or several, on an object: what it answers. */
+    interface Call {
+        long of(DoorBell bell);
+    }
+
+    static final int MAX = Integer.MAX_VALUE, MIN = Integer.MIN_VALUE;
     static final int NULL = -1000011, PLACE = -1000012, KIND = -1000013, SIZE = -1000014, STORE = -1000015;
     static final int NONE = DoorBell.NONE, BAD = DoorBell.BAD, STATE = DoorBell.STATE, FULL = DoorBell.FULL;
 
@@ -69,5 +78,31 @@ final class Check {
             numbers[i] = bell.trace(i);
         }
         return numbers;
+    }
+
+    /** All that can be looked at without a change; status() stands apart, since it alone may change. */
+    static List<Long> seen(DoorBell b) {
+        List<Long> all = new ArrayList<>();
+        for (int what = 0; what <= 8; what++) {
+            all.add((long) b.count(what));
+        }
+        for (int door = 0; door < b.count(1); door++) {
+            for (int what = 0; what <= 6; what++) {
+                all.add((long) b.door(door, what));
+            }
+        }
+        for (int one = 0; one < b.count(2); one++) {
+            for (int what = 0; what <= 4; what++) {
+                all.add((long) b.caller(one, what));
+            }
+            all.add((long) b.kind(one));
+        }
+        all.add((long) b.used(0));
+        all.add((long) b.used(1));
+        all.add((long) b.fault());
+        for (int i = 0; i <= 16; i++) {
+            all.add((long) b.trace(i));
+        }
+        return all;
     }
 }
