@@ -14,7 +14,8 @@ public final class AnyIntTest {
     private static final int[] SOME = {MIN, MIN + 1, -2, -1, 0, 1, 2, 5, 6, 8, 12, 13, 40, 41, 60, 61, 1 << 30, MAX - 1,
         MAX};
     private static final int[] FEW = {MIN, -1, 0, 1, 2, 8, 40, MAX};
-    private static final int RENEWED_BEHIND = 250, STATES = 5;
+    /** Three calls each, behind those that make the state: an object is used for 512 at most. */
+    private static final int RENEWED_BEHIND = 80, STATES = 5;
 
     private static DoorBell bell;
     private static Model model;

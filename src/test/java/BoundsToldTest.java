@@ -293,13 +293,13 @@ public final class BoundsToldTest {
         }
         int seventh = text.length();
         for (String more : new String[] {"u0,7;", "l", "b9", "p0,99;", "k,", "uu", "u777"}) {
+            b = Check.told(text.toString());
             C.due("7: a seventh " + more, Check.read(b, text + more), -1000100 - seventh);
             C.due("8: a seventh " + more, b.fault(), 3);
             C.due("33: six yet", b.count(2), 6);
         }
         for (String more : new String[] {"d1;", "g", "a", ",", ";", "0", "777", " "}) {
-            C.due("7: behind six, " + more, Check.read(b, text + more), -1000100 - seventh);
-            C.due("8: behind six, " + more, b.fault(), 1);
+            dueFault(text + more, seventh, 1);
         }
     }
 
@@ -332,16 +332,11 @@ public final class BoundsToldTest {
         C.due("7: one figure", Check.read(b, "g7,5;d9;d8;u1,6;"), 1);
         for (int place : places) {
             for (String more : new String[] {"0", "00", "000", "0000000000", "9999999999"}) {
-                String text = whole.substring(0, place) + more + whole.substring(place);
-                C.due("7: " + text, Check.read(b, text), -1000100 - place);
-                C.due("8: " + text, b.fault(), 1);
+                dueFault(whole.substring(0, place) + more + whole.substring(place), place, 1);
             }
-            String none = whole.substring(0, place) + whole.substring(place + 2);
-            C.due("7: no figure, " + none, Check.read(b, none), -1000100 - place);
-            C.due("8: no figure, " + none, b.fault(), 1);
-            String apart = whole.substring(0, place + 1) + " " + whole.substring(place + 1);
-            C.due("7: two apart, " + apart, Check.read(b, apart), -1000101 - place);
-            C.due("8: two apart, " + apart, b.fault(), 1);
+            // No figure at all, and two that stand apart.
+            dueFault(whole.substring(0, place) + whole.substring(place + 2), place, 1);
+            dueFault(whole.substring(0, place + 1) + " " + whole.substring(place + 1), place + 1, 1);
         }
     }
 

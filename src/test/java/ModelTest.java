@@ -4,12 +4,13 @@ import java.util.Random;
 public final class ModelTest {
     private static final int[] WILD = {Integer.MIN_VALUE, Integer.MIN_VALUE + 1, -1000000, -2, -1, 7, 8, 25, 40, 41,
         61, 64, 99, 256, 1000000, Integer.MAX_VALUE - 1, Integer.MAX_VALUE};
-    private static final int RUNS = 700, CALLS = 500;
+    /** The dearest step, a text that is told, makes some 70 calls: an object is used for 512 at most. */
+    private static final int RUNS = 4000, LAST_STEP_AHEAD_OF = 400;
 
     private static Random random;
     private static DoorBell bell;
     private static Model model;
-    private static int wrong = 0;
+    private static int wrong = 0, called = 0;
     private static StringBuilder told;
 
     public static void main(String[] args) {
@@ -19,8 +20,10 @@ public final class ModelTest {
             bell = new DoorBell();
             model = new Model();
             told = new StringBuilder();
-            for (int k = 0; k < CALLS && wrong < 20; k++) {
+            called = 0;
+            while (called < LAST_STEP_AHEAD_OF && wrong < 20) {
                 step();
+                compareFindings();
                 seen++;
             }
         }
@@ -31,11 +34,16 @@ public final class ModelTest {
     }
 
     private static void same(String call, long got, long want) {
+        called++;
         told.append(call).append(" = ").append(got).append('\n');
         if (got != want) {
             wrong++;
             System.out.println("model answers " + want + " at the end of\n" + told);
         }
+    }
+
+    private static void compareFindings() {
+        called += 2;
         if (bell.status() != model.status || bell.fault() != model.fault) {
             wrong++;
             System.out.println("status or fault differ at the end of\n" + told);

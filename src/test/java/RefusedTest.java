@@ -8,7 +8,6 @@ import java.util.function.Supplier;
  */
 public final class RefusedTest {
     private static final Check C = new Check("RefusedTest");
-    private static final int STATUS_AHEAD = 2;
     private static final int LAST_FINDING = Check.STORE, FIRST_FINDING = Check.NULL;
 
     public static void main(String[] args) {
@@ -25,103 +24,11 @@ public final class RefusedTest {
         C.end();
     }
 
-    // ---- three objects in the midst of things, each with status() 2
-
-    private static void layRows(DoorBell b) {
-        Check.fill(b, 0, 0, 1, 0, 1, 1, 0, 5, -5, 20, -20, 7);
-        Check.fill(b, 1, 1, 3, -3, 0, 0, 3, 0, -3, 0);
-        Check.fill(b, 2, 2);
-        Check.fill(b, 4, 0, 0, 0, 0, 0, 0, 0, 0, 21);
-    }
-
-    private static void findPlace(DoorBell b) {
-        C.due("34: a finding ahead", b.set(0, 10, 1), Check.PLACE);
-    }
-
-    private static DoorBell withoutStreet() {
-        DoorBell b = new DoorBell();
-        layRows(b);
-        Check.read(b, "g61");
-        Check.feed(b, "g3,2;d4;u0,4;");
-        findPlace(b);
-        return b;
-    }
-
-    private static DoorBell inTheMidst() {
-        DoorBell b = Check.told("g6,3;d5;d3;d9;u0,4;l1,2;b2,5;p1,6;k0,9;");
-        layRows(b);
-        b.stretch(1, 2);
-        b.days(2);
-        b.image(0);
-        b.sound(0, 0, 1);
-        b.stretch(1, 1);
-        b.sound(2, 1, 1);
-        b.days(1);
-        b.ask(1, 0);
-        Check.read(b, "g6,");
-        Check.feed(b, "g3,2;d4;u0,4;");
-        findPlace(b);
-        return b;
-    }
-
-    private static DoorBell full() {
-        DoorBell b = Check.told("g3,2;d5;d3;u0,4;l1,2;");
-        layRows(b);
-        for (int k = 0; k < 41; k++) {
-            b.days(24);
-        }
-        b.days(15);
-        b.stretch(0, 2);
-        b.stretch(1, 1);
-        b.sound(0, 0, 1);
-        b.sound(1, 1, 1);
-        for (int k = 0; k < 100; k++) {
-            b.feed(k == 0 ? 'g' : 'x');
-        }
-        findPlace(b);
-        return b;
-    }
-
-    // ---- all there is to ask; it spoils the object
-
-    private static List<Long> probe(DoorBell b) {
-        List<Long> all = Check.seen(b);
-        probeRows(b, all);
-        while (b.count(7) > 0) {
-            all.add((long) b.undo());
-            all.addAll(Check.seen(b));
-        }
-        for (int k = 0; k <= 1; k++) {
-            all.add((long) b.restore(k));
-            all.addAll(Check.seen(b));
-        }
-        all.add((long) b.street());
-        all.addAll(Check.seen(b));
-        return all;
-    }
-
-    private static void probeRows(DoorBell b, List<Long> all) {
-        for (int row = 0; row <= 6; row++) {
-            for (int lane = 0; lane <= 2; lane++) {
-                for (int i = 0; i < 12; i++) {
-                    b.row(7, lane, 8);
-                    int copied = b.copy(row, i, 7, 0, 1);
-                    all.add((long) copied);
-                    for (int side = -20; side <= 20 && copied == 1; side++) {
-                        b.set(7, 2, side);
-                        all.add((long) b.rather(7, 0, 1));
-                    }
-                }
-            }
-            all.add((long) b.drop(row));
-        }
-        b.drop(7);
-    }
-
     private static void twinsAreAlike() {
-        C.due("twins without a street", probe(withoutStreet()).equals(probe(withoutStreet())) ? 1 : 0, 1);
-        C.due("twins in the midst", probe(inTheMidst()).equals(probe(inTheMidst())) ? 1 : 0, 1);
-        C.due("twins that are full", probe(full()).equals(probe(full())) ? 1 : 0, 1);
+        dueAlike("twins without a street", Twins::withoutStreet, Twins::withoutStreet, 1);
+        dueAlike("twins in the midst", Twins::inTheMidst, Twins::inTheMidst, 1);
+        dueAlike("twins that are full", Twins::full, Twins::full, 1);
+        dueAlike("others than these", Twins::full, Twins::inTheMidst, 0);
     }
 
     /** A test of the test: whatever is done, not refused, must show. */
@@ -133,39 +40,42 @@ public final class RefusedTest {
             b -> b.image(0), b -> b.image(1), b -> b.restore(0), b -> b.ask(0, 0)
         };
         for (int k = 0; k < calls.length; k++) {
-            DoorBell b = inTheMidst();
-            C.due("not refused " + k, calls[k].of(b) >= -1000 ? 1 : 0, 1);
-            C.due("a change is seen " + k, probe(b).equals(probe(inTheMidst())) ? 1 : 0, 0);
+            C.due("not refused " + k, calls[k].of(Twins.inTheMidst()) >= -1000 ? 1 : 0, 1);
+            dueAlike("a change is seen " + k, Twins.behind(Twins::inTheMidst, calls[k]), Twins::inTheMidst, 0);
         }
+    }
+
+    private static void dueAlike(String what, Supplier<DoorBell> one, Supplier<DoorBell> other, int due) {
+        C.due(what, Twins.probe(one).equals(Twins.probe(other)) ? 1 : 0, due);
     }
 
     private static void refused(String what, Supplier<DoorBell> state, Check.Call call, long due) {
         DoorBell b = state.get();
         C.due(what, call.of(b), due);
         boolean isFinding = due <= FIRST_FINDING && due >= LAST_FINDING;
-        C.due("34: behind " + what, b.status(), isFinding ? -1000010 - due : STATUS_AHEAD);
-        C.due(what + " changes nothing", probe(b).equals(probe(state.get())) ? 1 : 0, 1);
+        C.due("34: behind " + what, b.status(), isFinding ? -1000010 - due : Twins.STATUS);
+        dueAlike(what + " changes nothing", Twins.behind(state, call), state, 1);
         DoorBell twice = state.get();
         call.of(twice);
         C.due(what + ", once more", call.of(twice), due);
     }
 
     private static void inAll(String what, Check.Call call, long due) {
-        refused(what + ", no street", RefusedTest::withoutStreet, call, due);
-        refused(what + ", in the midst", RefusedTest::inTheMidst, call, due);
-        refused(what + ", full", RefusedTest::full, call, due);
+        refused(what + ", no street", Twins::withoutStreet, call, due);
+        refused(what + ", in the midst", Twins::inTheMidst, call, due);
+        refused(what + ", full", Twins::full, call, due);
     }
 
     private static void midst(String what, Check.Call call, long due) {
-        refused(what, RefusedTest::inTheMidst, call, due);
+        refused(what, Twins::inTheMidst, call, due);
     }
 
     private static void atFull(String what, Check.Call call, long due) {
-        refused(what + ", full", RefusedTest::full, call, due);
+        refused(what + ", full", Twins::full, call, due);
     }
 
     private static void streetless(String what, Check.Call call, long due) {
-        refused(what + ", no street", RefusedTest::withoutStreet, call, due);
+        refused(what + ", no street", Twins::withoutStreet, call, due);
     }
 
     private static void rows() {
@@ -311,23 +221,32 @@ public final class RefusedTest {
     /** A FAULT empties the tape and tells its number; all else stays. */
     private static void faults() {
         String[] texts = {"x", "g3,2;d4;d5;d6;d7;u0,4;u9,1;", "g1,1;d1;d1;d1;d1;d1;d1;d1;", ""};
-        for (String text : texts) {
-            DoorBell b = inTheMidst();
-            DoorBell twin = inTheMidst();
-            b.street();
-            twin.street();
-            b.restore(0);
-            twin.restore(0);
-            b.days(2);
-            twin.days(2);
+        String[] others = {"g", "g61", "g1,1;d1;d1;d1;d1;d1;d1;d", "gg"};
+        int[] numbers = {1, 2, 3, 1};
+        for (int k = 0; k < texts.length; k++) {
+            String text = texts[k];
+            String other = others[k];
+            DoorBell b = restored();
             C.due("7: a fault", Check.read(b, text) <= -1000100 ? 1 : 0, 1);
-            int number = b.fault();
-            Check.read(twin, number == 1 ? "g" : number == 2 ? "g61" : "g1,1;d1;d1;d1;d1;d1;d1;d");
-            C.due("8: of the same number", twin.fault(), number);
-            C.due("34: a fault is no finding", b.status(), STATUS_AHEAD);
-            C.due("7: all stays behind " + text, probe(b).equals(probe(twin)) ? 1 : 0, 1);
+            C.due("8: its number", b.fault(), numbers[k]);
+            C.due("34: a fault is no finding", b.status(), Twins.STATUS);
+            dueAlike("7: all stays behind " + text, Twins.behind(RefusedTest::restored, x -> Check.read(x, text)),
+                Twins.behind(RefusedTest::restored, x -> Check.read(x, other)), 1);
         }
-        DoorBell b = inTheMidst();
+        tapeAlone();
+    }
+
+    /** In the midst, with an empty tape and two DAYS that can be undone. */
+    private static DoorBell restored() {
+        DoorBell b = Twins.inTheMidst();
+        b.street();
+        b.restore(0);
+        b.days(2);
+        return b;
+    }
+
+    private static void tapeAlone() {
+        DoorBell b = Twins.inTheMidst();
         List<Long> before = new ArrayList<>(Check.seen(b));
         Check.feed(b, "x");
         C.due("7: at the place behind the street", b.street(), -1000100 - 13);
@@ -345,8 +264,8 @@ public final class RefusedTest {
             b -> b.who(0, 0, 0, 1), b -> b.rather(1, 0, 0), b -> b.as(0, 0)
         };
         for (int k = 0; k < with.length; k++) {
-            DoorBell b = inTheMidst();
-            C.due("34: ahead", b.status(), STATUS_AHEAD);
+            DoorBell b = Twins.inTheMidst();
+            C.due("34: ahead", b.status(), Twins.STATUS);
             with[k].of(b);
             C.due("34: none by call " + k, b.status(), 0);
         }
@@ -359,9 +278,9 @@ public final class RefusedTest {
             b -> b.status()
         };
         for (int k = 0; k < without.length; k++) {
-            DoorBell b = inTheMidst();
+            DoorBell b = Twins.inTheMidst();
             without[k].of(b);
-            C.due("34: left by call " + k, b.status(), STATUS_AHEAD);
+            C.due("34: left by call " + k, b.status(), Twins.STATUS);
         }
     }
 }

@@ -169,6 +169,7 @@ public final class TextTest {
         for (int n = 0; n < whole.length(); n++) {
             boolean isWhole = n == 11 || n == 15;
             int due = isWhole ? 0 : -1000100 - n;
+            b = new DoorBell();
             C.due("7: the whole", Check.read(b, whole), 1);
             C.due("7: of a longer text on the tape before only " + n, Check.read(b, whole.substring(0, n)), due);
         }
