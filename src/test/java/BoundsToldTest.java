@@ -389,7 +389,7 @@ public final class BoundsToldTest {
         dueFault(six + "u0,5;d1;", six.length() + 5, 1);
         dueFault(six + "u0,5;u0,5;u0,5;u0,5;u0,5;u0,5;d", six.length() + 30, 1);
         dueFault(six + "u0,5;u0,5;u0,5;u0,5;u0,5;u0,5;u", six.length() + 30, 3);
-        dueFault(six + "u0,5;u0,5;u0,5;u0,5;u0,5;u0,5;" + (char) 'u' + (char) 'u', six.length() + 30, 3);
+        dueFault(six + "u0,5;u0,5;u0,5;u0,5;u0,5;u0,5;" + "uu", six.length() + 30, 3);
     }
 
     private static void dueFault(String text, int place, int number) {
